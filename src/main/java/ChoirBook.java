@@ -1,6 +1,8 @@
 /**
  * A choir book: singers whose ranges are found by tests, voices that are placed by blend,
  * rehearsals with absences and stand-ins, solos that rotate, and seats by height.
+ *
+ * <p>Every row is made in a constructor and used again, so that no later call makes an object.
  */
 public final class ChoirBook {
     public static final int BAD = -1, STATE = -2, FULL = -3, NONE = -9;
@@ -623,7 +625,7 @@ public final class ChoirBook {
 
     /** Reads a text byte by byte, and remembers the fault that it found last. */
     private static final class Reader {
-        static final int BETWEEN = 0, FIRST = 1, DASH = 2, SECOND = 3, CLOSED = 4;
+        private static final int BETWEEN = 0, FIRST = 1, DASH = 2, SECOND = 3, CLOSED = 4;
 
         /** Numbers that were told (notes, or absent singers), and those of them that can be sung. */
         long told;
@@ -1014,9 +1016,10 @@ public final class ChoirBook {
             return (low[set] & bits(from, to)) != 0 || (high[set] & bits(from - 64, to - 64)) != 0;
         }
 
+        /** The bits of one long between two numbers, which may lie outside it. */
         private static long bits(int from, int to) {
-            int lowest = Math.max(from, 0);
-            int highest = Math.min(to, 63);
+            int lowest = from > 0 ? from : 0;
+            int highest = to < 63 ? to : 63;
             return lowest > highest ? 0 : -1L >>> 63 - (highest - lowest) << lowest;
         }
     }

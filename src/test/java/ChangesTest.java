@@ -9,6 +9,7 @@ public final class ChangesTest {
         promise2AddsAFreshSinger();
         promise3Remove();
         promise3WhatWasCountedStays();
+        promise3RemoveOfTen();
         promise4Set();
         promise4SingersStayPlaced();
         promise5Test();
@@ -17,11 +18,13 @@ public final class ChangesTest {
         promise7PlaceAll();
         promise7Ties();
         promise7WhoFitsCounts();
+        promise7Uneven();
         promise8Attendance();
         promise9Hold();
         promise9StandIns();
         promise9StandInsKeepTheirPartCovered();
         promise9Solos();
+        promise9WhoComesFirst();
         promise9Pause();
         promise9Limit();
         promise10Undo();
@@ -88,10 +91,13 @@ public final class ChangesTest {
 
     private static void promise2AddsAFreshSinger() {
         ChoirBook book = new ChoirBook();
-        Check.joinPart(book, 6, 1);
-        Check.joinPart(book, 6, 1);
-        Check.absent(book, "1");
+        Check.joinPart(book, 9, 1);
+        Check.joinPart(book, 3, 1);
         book.hold();
+        due("1 stood in", book.singer(1, 9), 1);
+        Check.absent(book, "0");
+        book.hold();
+        due("1 had a solo", book.singer(1, 7), 1);
         Check.absent(book, "0 1");
         book.remove(0);
         book.remove(0);
@@ -156,6 +162,26 @@ public final class ChangesTest {
         book.remove(0);
         due("solo(0, 1) of one removed", book.solo(0, 1), 1);
         due("solos behind all", book.told(5), 1);
+    }
+
+    private static void promise3RemoveOfTen() {
+        ChoirBook book = new ChoirBook();
+        for (int i = 0; i < 10; i++) {
+            Check.joinPart(book, 1 + i % 9, 100 + i, i % 4);
+        }
+        Check.absent(book, "9");
+        due("ten: absent", book.told(3), 1);
+        due("ten: covered", book.told(4), 15);
+        due("ten: the alto without 9", book.part(1, 2), 8);
+        due("ten: row of 9", book.seat(9, 0), 1);
+        due("ten: solo", book.part(1, 5), 1);
+        due("ten: hold", book.hold(), 4);
+        due("ten: 9 is present again", book.singer(9, 6), 1);
+        due("ten: remove(0)", book.remove(0), 9);
+        for (int i = 0; i < 9; i++) {
+            due("height of " + i, book.singer(i, 1), 101 + i);
+        }
+        due("the tenth is gone", book.singer(9, 1), BAD);
     }
 
     private static void promise4Set() {
@@ -375,6 +401,85 @@ public final class ChangesTest {
         }
         due("ten basses", book.placeAll(), 0);
         due("their strength", book.part(3, 1), 90);
+        book = new ChoirBook();
+        Check.joinPart(book, 5, 1);
+        Check.text(book, "0-40!");
+        book.test(0);
+        due("the only one fits nowhere", book.placeAll(), 0);
+        parts(book, NONE);
+    }
+
+    private static void promise7Uneven() {
+        for (int singers = 1; singers <= 10; singers++) {
+            uneven(singers, "22-36", 0, "16-36", 1);
+            uneven(singers, "10-24", 2, "4-24", 3);
+        }
+        eachInTheirPart();
+    }
+
+    /** Many who can sing one part only, behind one who can go to another part and has to. */
+    private static void uneven(int singers, String tests, int part, String wide, int other) {
+        ChoirBook book = new ChoirBook();
+        for (int i = 0; i < singers; i++) {
+            Check.join(book, 9, 170, tests);
+        }
+        due(singers + " in one part", book.placeAll(), 0);
+        due("their strength", book.part(part, 1), 9 * singers);
+        if (singers == 10) {
+            return;
+        }
+        book = new ChoirBook();
+        Check.join(book, 1, 170, wide);
+        for (int i = 0; i < singers; i++) {
+            Check.join(book, 9, 170, tests);
+        }
+        book.placeAll();
+        due("the first of " + singers + " goes elsewhere", book.singer(0, 5), other);
+        due("the strength of the others", book.part(part, 1), 9 * singers);
+    }
+
+    private static void eachInTheirPart() {
+        ChoirBook book = new ChoirBook();
+        for (int i = 0; i < 8; i++) {
+            Check.join(book, 9, 170, "22-36");
+        }
+        Check.join(book, 1, 170, "16-36");
+        Check.join(book, 1, 170, "16-36");
+        book.placeAll();
+        due("72 sopranos", book.part(0, 1), 72);
+        parts(book, 0, 0, 0, 0, 0, 0, 0, 0, 1, 1);
+        book = new ChoirBook();
+        Check.join(book, 1, 170, "16-36");
+        Check.join(book, 1, 170, "10-36");
+        for (int i = 0; i < 8; i++) {
+            Check.join(book, 9, 170, "4-18");
+        }
+        book.placeAll();
+        due("72 basses", book.part(3, 1), 72);
+        parts(book, 0, 0, 3, 3, 3, 3, 3, 3, 3, 3);
+        book = new ChoirBook();
+        for (int i = 0; i < 7; i++) {
+            Check.join(book, 9, 170, "16-30");
+        }
+        Check.join(book, 1, 170, "16-36");
+        Check.join(book, 1, 170, "10-30");
+        Check.join(book, 1, 170, "4-30");
+        // 63 altos, and the others one each.
+        due("all parts have one", book.placeAll(), 1);
+        parts(book, 1, 1, 1, 1, 1, 1, 1, 0, 2, 3);
+        book = new ChoirBook();
+        Check.join(book, 9, 170, "22-36");
+        Check.join(book, 2, 170, "16-30");
+        Check.join(book, 8, 170, "10-24");
+        Check.join(book, 3, 170, "4-18");
+        due("each in their only part", book.placeAll(), 2);
+        parts(book, 0, 1, 2, 3);
+        Check.join(book, 1, 170, "0-40");
+        due("another", book.placeAll(), 3);
+        parts(book, 0, 1, 2, 3, 1);
+        Check.join(book, 2, 170, "16-36");
+        due("and another", book.placeAll(), 4);
+        parts(book, 0, 1, 2, 3, 3, 1);
     }
 
     private static void promise8Attendance() {
@@ -537,7 +642,31 @@ public final class ChangesTest {
         due("3 is the only one with 2", book.solo(11, 0), 3);
     }
 
+    private static void promise9WhoComesFirst() {
+        ChoirBook book = new ChoirBook();
+        Check.joinPart(book, 5, 2);
+        Check.joinPart(book, 5, 2);
+        book.set(1, 50);
+        book.set(2, 0);
+        String[] absent = {"0", "", "", "1", "1", "1", "", "", ""};
+        // By turns while they have as many; then 0 gets two more, and 1 comes first until they have as many again.
+        int[] due = {1, 0, 1, 0, 0, 0, 1, 1, 0};
+        for (int rehearsal = 0; rehearsal < due.length; rehearsal++) {
+            Check.absent(book, absent[rehearsal]);
+            book.hold();
+            due("by turns: solo(" + rehearsal + ", 2)", book.solo(rehearsal, 2), due[rehearsal]);
+        }
+    }
+
     private static void promise9Pause() {
+        ChoirBook fresh = new ChoirBook();
+        Check.joinPart(fresh, 5, 0);
+        Check.joinPart(fresh, 5, 0);
+        fresh.set(1, 50);
+        fresh.set(2, 10);
+        due("the longest pause does not hold for the first solo", fresh.hold(), 1);
+        due("nor for another's", fresh.hold(), 1);
+        due("but behind it", fresh.hold(), 0);
         ChoirBook book = new ChoirBook();
         Check.joinPart(book, 5, 3);
         book.set(2, 2);

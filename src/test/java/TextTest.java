@@ -114,6 +114,8 @@ public final class TextTest {
 
     private static void attendanceFails(int singers, String text, int kind, int place) {
         ChoirBook book = choir(singers);
+        // Tests that were read before do not let the signs of tests stand in an attendance.
+        book.test(0);
         Check.text(book, text);
         due("attendance '" + text + "'", book.attendance(), STATE);
         due("kind in attendance '" + text + "'", book.fault(0), kind);

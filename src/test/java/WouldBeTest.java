@@ -12,6 +12,7 @@ public final class WouldBeTest {
         promise26Keep();
         promise27Back();
         promise27IsAChange();
+        promise27SolosAreKept();
         CHECK.end();
     }
 
@@ -228,5 +229,26 @@ public final class WouldBeTest {
         due("the image is not undone", book.back(0), 0);
         due("errors are no changes", book.back(1), STATE);
         due("changes then", book.told(8), 2);
+    }
+
+    private static void promise27SolosAreKept() {
+        ChoirBook book = new ChoirBook();
+        Check.joinPart(book, 5, 2);
+        Check.joinPart(book, 5, 2);
+        book.set(1, 50);
+        book.hold();
+        book.hold();
+        book.keep(0);
+        book.undo();
+        book.undo();
+        Check.absent(book, "0");
+        book.hold();
+        due("now 1 has the solo", book.solo(0, 2), 1);
+        book.back(0);
+        due("in the image 0 has it", book.solo(0, 2), 0);
+        due("and 1 the next one", book.solo(1, 2), 1);
+        book.undo();
+        due("undone: 1 has the solo", book.solo(0, 2), 1);
+        due("undone: one rehearsal", book.solo(1, 2), BAD);
     }
 }

@@ -113,6 +113,7 @@ public final class PromisesEdgeTest {
         due("remove", book.remove(5), 9);
         due("the tenth again", book.add(5, 170), 9);
         anAddedSingerIsPresentThoughAnotherWasNot();
+        anAddedSingerHasNothingOfOneWhoIsGone();
     }
 
     private static void anAddedSingerIsPresentThoughAnotherWasNot() {
@@ -124,6 +125,26 @@ public final class PromisesEdgeTest {
         book.undo();
         book.undo();
         due("the old one is not", book.singer(9, 6), 0);
+    }
+
+    private static void anAddedSingerHasNothingOfOneWhoIsGone() {
+        ChoirBook book = placed(1, 1);
+        book.hold();
+        Check.absent(book, "0");
+        book.hold();
+        due("0 stood in", book.singer(0, 9), 1);
+        due("1 had a solo", book.singer(1, 7), 1);
+        book.remove(1);
+        book.remove(0);
+        book.add(3, 120);
+        book.add(4, 130);
+        int[][] fresh = {{3, 120, NONE, NONE, 0, NONE, 1, 0, NONE, 0}, {4, 130, NONE, NONE, 0, NONE, 1, 0, NONE, 0}};
+        for (int singer = 0; singer < 2; singer++) {
+            for (int what = 0; what < 10; what++) {
+                due("in the place of another: singer(" + singer + ", " + what + ")", book.singer(singer, what), fresh[singer][what]);
+            }
+            due("in the place of another: note", book.note(singer, 20), NONE);
+        }
     }
 
     // "Removes a singer. What was counted of rehearsals stays." "BAD if there is no such singer."
@@ -191,6 +212,11 @@ public final class PromisesEdgeTest {
         due("all notes", book.test(0), 41);
         Check.text(book, "0-40!");
         due("no note", book.test(0), 0);
+        due("nothing is known of the other", book.note(1, 20), NONE);
+        Check.text(book, "3!");
+        due("one note of the other", book.test(1), 1);
+        due("whose other tests stay: can", book.note(1, 4), 1);
+        due("whose other tests stay: cannot", book.note(1, 5), 0);
         Check.text(book, "20 41");
         due("a fault", book.test(0), STATE);
         due("nothing taken", book.note(0, 20), 0);
@@ -198,7 +224,10 @@ public final class PromisesEdgeTest {
         due("an end within a word", book.test(1), STATE);
         Check.text(book, "?");
         due("a byte that cannot stand there", book.test(1), STATE);
-        due("the other one's notes", book.singer(1, 2), 3);
+        Check.text(book, "36");
+        due("without what the faulty texts told", book.test(1), 1);
+        due("of which nothing is known", book.note(1, 20), NONE);
+        due("the other one's notes", book.singer(1, 2), 4);
     }
 
     // "part: the part, or NONE for none" "BAD if there is no such singer or part; STATE if the part does not fit"

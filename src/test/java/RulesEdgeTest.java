@@ -316,6 +316,10 @@ public final class RulesEdgeTest {
         thenTheGreatestIsLeast();
         thenTheFirstInTheLowerPart();
         theStrongestChoir();
+        for (int part = 0; part < 4; part++) {
+            theStrongestPart(part);
+        }
+        whoCanGoElsewhereDoes();
     }
 
     // "Each singer is placed in a part, or in none (none at first)."
@@ -424,6 +428,16 @@ public final class RulesEdgeTest {
         Check.join(book, 4, 170, "10-30");
         due("the soprano has 2", book.placeAll(), 2);
         partsAre("4 keeps away from the 9", book, 0, 1, 2, 3, 2);
+        String[] only = {"22-36", "16-30", "10-24", "4-18"};
+        String[] both = {"16-36", "10-30", "4-24"};
+        for (int part = 0; part < 3; part++) {
+            book = of(both[part], only[part]);
+            due("the least is 0, the greatest 5", book.placeAll(), 0);
+            partsAre("the part " + part + " is needed by another", book, part + 1, part);
+            book = of(both[part], only[part + 1]);
+            due("the least is 0, the greatest 5", book.placeAll(), 0);
+            partsAre("the part " + (part + 1) + " is needed by another", book, part, part + 1);
+        }
     }
 
     // "of several the one in which the first singer who is placed differently is in the part with the lower number"
@@ -463,6 +477,57 @@ public final class RulesEdgeTest {
         due("without one", book.without(9), 0);
         due("remove one", book.remove(0), 9);
         due("the strength then", book.part(3, 1), 81);
+    }
+
+    /** Strengths of one part from 63 to 66, and up to 90, beside one of 1 to 9 in the part next to it. */
+    private static void theStrongestPart(int part) {
+        int lowest = 22 - 6 * part;
+        String here = lowest + "-" + (lowest + 14);
+        int neighbour = part ^ 1;
+        int there = 22 - 6 * neighbour;
+        for (int last = 1; last <= 9; last++) {
+            ChoirBook book = new ChoirBook();
+            for (int i = 0; i < 9; i++) {
+                Check.join(book, i < 7 ? 9 : i < 8 ? last : 1 + last % 3, 170, here);
+            }
+            Check.join(book, last, 170, there + "-" + (there + 14));
+            String name = "part " + part + ", last " + last;
+            due(name + ": placeAll", book.placeAll(), 0);
+            due(name + ": strength", book.part(part, 1), 63 + last + 1 + last % 3);
+            due(name + ": its neighbour", book.part(neighbour, 1), last);
+            for (int removed = 8; removed >= 7; removed--) {
+                book.remove(removed);
+                due(name + ": least without " + removed, book.placeAll(), 0);
+                due(name + ": singers without " + removed, book.part(part, 0), removed);
+                due(name + ": strength without " + removed, book.part(part, 1), removed == 8 ? 63 + last : 63);
+            }
+        }
+    }
+
+    /** Nine or eight who can sing one part alone, and one or two for whom another part is left. */
+    private static void whoCanGoElsewhereDoes() {
+        String[] only = {"22-36", "16-30", "10-24", "4-18"};
+        for (int part = 0; part < 4; part++) {
+            for (int other = 0; other < 4; other++) {
+                ChoirBook book = new ChoirBook();
+                Check.join(book, 1, 170, "0-40");
+                for (int i = 0; i < 8; i++) {
+                    Check.join(book, 9, 170, only[part]);
+                }
+                Check.join(book, 2, 170, only[other]);
+                String name = "eight for part " + part + ", one for " + other;
+                due(name, book.placeAll(), 0);
+                int free = 0;
+                while (free == part || free == other) {
+                    free++;
+                }
+                // Only what the strongest part has counts, so 1 may sit with 2 where this is the lower part.
+                int with = other != part && other < free ? other : free;
+                due(name + ": strength", book.part(part, 1), other == part ? 74 : 72);
+                due(name + ": the first", book.singer(0, 5), with);
+                due(name + ": the last", book.singer(9, 5), other);
+            }
+        }
     }
 
     // ---- REHEARSALS

@@ -206,6 +206,7 @@ public final class TextAndChangesEdgeTest {
         noSingerAtAllOrTheSameAgain();
         aSingerWhoDoesNotExist();
         aRemovedSingerDoesNotExist();
+        theSignsOfTestsCannotStandBehindTests();
     }
 
     // "the numbers of absent singers, with one or more blanks between two of them, and blanks likewise"
@@ -254,6 +255,23 @@ public final class TextAndChangesEdgeTest {
         book.add(5, 170);
         due("2 of three again", book.attendance(), 1);
         due("who was absent is present", book.singer(1, 6), 1);
+    }
+
+    private static void theSignsOfTestsCannotStandBehindTests() {
+        ChoirBook book = choir(2);
+        Check.text(book, "0-1!");
+        due("as tests", book.test(0), 0);
+        due("as an attendance", book.attendance(), STATE);
+        due("kind", book.fault(0), 1);
+        due("place", book.fault(1), 1);
+        due("as tests again", book.test(1), 0);
+        Check.text(book, "1!");
+        due("the other sign", book.attendance(), STATE);
+        due("its place", book.fault(1), 1);
+        Check.text(book, "1");
+        due("behind a fault", book.attendance(), 1);
+        due("as tests at last", book.test(0), 1);
+        due("which are notes", book.note(0, 1), 1);
     }
 
     // "Numbers have 1 or 2 digits"
@@ -513,14 +531,15 @@ public final class TextAndChangesEdgeTest {
         book.hold();
         Check.absent(book, "1");
         int[][] singers = {{5, 180, 0, 40, 15, 1, 1, 0, NONE, 1}, {6, 160, 0, 40, 15, 1, 0, 1, 0, 0}};
-        Check.absent(book, "0");
+        Check.absent(book, "");
+        book.set(2, 0);
         book.hold();
         Check.text(book, "3-30!");
         book.test(1);
         book.placeAll();
         book.set(0, 1);
         book.remove(0);
-        for (int left = 7; left >= 2; left--) {
+        for (int left = 7; left >= 1; left--) {
             due("undo", book.undo(), left);
         }
         for (int singer = 0; singer < 2; singer++) {
@@ -538,6 +557,30 @@ public final class TextAndChangesEdgeTest {
         due("no rehearsal 1", book.solo(1, 1), BAD);
         due("the setting 0", book.setting(0), 12);
         due("the setting 2", book.setting(2), 4);
+        undoRestoresWhoHadSolos();
+    }
+
+    private static void undoRestoresWhoHadSolos() {
+        ChoirBook book = new ChoirBook();
+        Check.joinPart(book, 5, 1);
+        Check.joinPart(book, 5, 1);
+        book.set(1, 50);
+        book.hold();
+        book.hold();
+        due("0, then 1", book.solo(0, 1) * 10 + book.solo(1, 1), 1);
+        // Two rehearsals are kept in an image and undone, and another one is held instead.
+        book.keep(0);
+        book.undo();
+        book.undo();
+        Check.absent(book, "0");
+        book.hold();
+        due("1 alone", book.solo(0, 1), 1);
+        book.back(0);
+        due("0 in the image", book.solo(0, 1), 0);
+        due("1 in the image", book.solo(1, 1), 1);
+        book.undo();
+        due("1 alone again", book.solo(0, 1), 1);
+        due("one rehearsal", book.solo(1, 1), BAD);
     }
 
     // "records everything before it, except the text, the latest fault and the images"

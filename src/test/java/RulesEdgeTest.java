@@ -318,6 +318,7 @@ public final class RulesEdgeTest {
         theStrongestChoir();
         for (int part = 0; part < 4; part++) {
             theStrongestPart(part);
+            theLastGoesElsewhere(part);
         }
         whoCanGoElsewhereDoes();
     }
@@ -528,6 +529,19 @@ public final class RulesEdgeTest {
                 due(name + ": the last", book.singer(9, 5), other);
             }
         }
+    }
+
+    /** The same, but the one who can go is the last one. */
+    private static void theLastGoesElsewhere(int part) {
+        ChoirBook book = new ChoirBook();
+        for (int i = 0; i < 8; i++) {
+            Check.join(book, 9, 170, (22 - 6 * part) + "-" + (36 - 6 * part));
+        }
+        int higher = Math.max(0, part - 1);
+        Check.join(book, 1, 170, (16 - 6 * higher) + "-" + (36 - 6 * higher));
+        due("eight for part " + part, book.placeAll(), 0);
+        due("eight for part " + part + ": strength", book.part(part, 1), 72);
+        due("eight for part " + part + ": the last one", book.singer(8, 5), part == 0 ? 1 : higher);
     }
 
     // ---- REHEARSALS

@@ -320,7 +320,9 @@ public final class RulesEdgeTest {
             theStrongestPart(part);
             theLastGoesElsewhere(part);
         }
-        whoCanGoElsewhereDoes();
+        for (int many = 1; many <= 8; many++) {
+            whoCanGoElsewhereDoes(many);
+        }
     }
 
     // "Each singer is placed in a part, or in none (none at first)."
@@ -505,18 +507,18 @@ public final class RulesEdgeTest {
         }
     }
 
-    /** Nine or eight who can sing one part alone, and one or two for whom another part is left. */
-    private static void whoCanGoElsewhereDoes() {
+    /** Many who can sing one part alone, one for another part, and one who can sing all and is the first one. */
+    private static void whoCanGoElsewhereDoes(int many) {
         String[] only = {"22-36", "16-30", "10-24", "4-18"};
         for (int part = 0; part < 4; part++) {
             for (int other = 0; other < 4; other++) {
                 ChoirBook book = new ChoirBook();
                 Check.join(book, 1, 170, "0-40");
-                for (int i = 0; i < 8; i++) {
+                for (int i = 0; i < many; i++) {
                     Check.join(book, 9, 170, only[part]);
                 }
                 Check.join(book, 2, 170, only[other]);
-                String name = "eight for part " + part + ", one for " + other;
+                String name = many + " for part " + part + ", one for " + other;
                 due(name, book.placeAll(), 0);
                 int free = 0;
                 while (free == part || free == other) {
@@ -524,14 +526,14 @@ public final class RulesEdgeTest {
                 }
                 // Only what the strongest part has counts, so 1 may sit with 2 where this is the lower part.
                 int with = other != part && other < free ? other : free;
-                due(name + ": strength", book.part(part, 1), other == part ? 74 : 72);
+                due(name + ": strength", book.part(part, 1), 9 * many + (other == part ? 2 : 0));
                 due(name + ": the first", book.singer(0, 5), with);
-                due(name + ": the last", book.singer(9, 5), other);
+                due(name + ": the last", book.singer(many + 1, 5), other);
             }
         }
     }
 
-    /** The same, but the one who can go is the last one. */
+    /** Eight who can sing one part alone, and behind them one who can sing another part, too. */
     private static void theLastGoesElsewhere(int part) {
         ChoirBook book = new ChoirBook();
         for (int i = 0; i < 8; i++) {
